@@ -323,6 +323,8 @@ public final class PromisesTest {
         for (int k = 0; k < 4; k++) due("11 none", x.text(k), 0);
         for (int i = 11; i <= 14; i++) due("11 look(" + i + ")", x.look(i), 0);
         tell(0, "  \n ", 0);
+        for (int i = 0; i < 30; i++) tell(0, "weeps 1+2+3+4+5+6+7+8+9+1+2+3+4+5+6+7+8+9;", 1);
+        due("11 the thirtieth law", x.of(0, 10), 90);
     }
 
     private static int weeps(String law) {
@@ -399,6 +401,15 @@ public final class PromisesTest {
         Check.faulty(x, 0, "damps 1 when " + times("not(", 4) + "not 1=1;", 3, 29);
         Check.faulty(x, 0, "damps 1 when " + times("not ", 8) + "1;", 1, 46);
         Check.faulty(x, 0, "weeps 1/0 when 12345;", 2, 8);
+        Check.faulty(x, 0, "when 1=1;", 1, 0);
+        Check.faulty(x, 0, "weeps sadz;", 1, 6);
+        Check.faulty(x, 0, "weeps sadA;", 1, 6);
+        Check.faulty(x, 0, "weeps sadZ;", 1, 6);
+        Check.faulty(x, 0, "weeps sad_;", 1, 9);
+        Check.faulty(x, 0, times(";", 400), 1, 0);
+        Check.faulty(x, 0, "weeps1" + times("+1", 197), 1, 400);
+        Check.faulty(x, 0, "weeps 1" + times("+1", 196) + "+", 1, 400);
+        tell(0, "weeps1" + times("*1", 196) + ";", 1);
         tell(1, "on 999 player 0 piece 0 1 0 1 0 1;", 1);
         Check.faulty(x, 1, "on 1000 player 0 piece 0;", 2, 3);
         Check.faulty(x, 1, "on player 0 piece 0;", 1, 3);
@@ -411,6 +422,7 @@ public final class PromisesTest {
         Check.faulty(x, 1, "on 0 piece 0;", 1, 5);
         Check.faulty(x, 1, "weeps 1;", 1, 0);
         tell(2, "on 0 tune 7;on 999 child 99;on 0 child 1;on 0 fire 9;on 0 fire 0;on 0 dry 99;on 0 dry 0;on 0 empty;", 8);
+        Check.faulty(x, 2, "on 1000 empty;", 2, 3);
         Check.faulty(x, 2, "on 0 tune 8;", 2, 10);
         Check.faulty(x, 2, "on 0 tune;", 1, 9);
         Check.faulty(x, 2, "on 0 child 0;", 2, 11);
@@ -427,7 +439,7 @@ public final class PromisesTest {
         Check.faulty(x, 3, "piece 0 piece 1;", 1, 8);
         Check.faulty(x, 3, "piece 0 like 1", 1, 14);
         Check.faulty(x, 3, "on 0 empty;", 1, 0);
-        x.text(9);
+        Check.tell(x, 9, "nothing");
         due("12 no such text: 0", x.fault(0), 0);
         due("12 no place", x.fault(1), -1);
         x = new WeepingPiano();
@@ -577,6 +589,17 @@ public final class PromisesTest {
         due("20 60 minutes at most", x.lasts(0, 3, 0), 65);
         due("20 the first of like ones", x.lasts(0, 3, 10), 0);
         due("20 nothing stays", x.look(2), 31);
+        fresh(new int[] {1, 9, 0, 1, 8, 0}, new int[] {0, 0});
+        tell(0, "weeps sad*5;settles 30 when salt=0;settles 1;", 3);
+        // 0 first: 45, 15, then by 1: 6 minutes. 1 first: 40, 10: 1 minute; salt is 0 again when it is tried.
+        due("20 each order from how things are", x.lasts(0, 3, 0), 3);
+        due("20 1 first", x.lasts(0, 3, 10), 1);
+        tell(0, "weeps sad*5;settles 99 when played=1;settles 0;", 3);
+        due("20 played one more behind it, in each order", x.lasts(0, 3, 0), 3);
+        due("20 the first order", x.lasts(0, 3, 10), 0);
+        // Strings change nothing of it.
+        tell(0, "weeps 1+flat+string;damps 1000;", 2);
+        due("20 no waiting", x.lasts(0, 3, 0), 2);
     }
 
     private static void p21Chords() {
@@ -637,6 +660,9 @@ public final class PromisesTest {
         due("23 moved", x.tune(0), 3);
         due("23 where first", x.tune(1), 1);
         due("23 rises", x.tune(2), 6);
+        tuneOf(5, 7, 9);
+        due("23 two that meet", x.tune(0), 2);
+        due("23 where they are first", x.tune(1), 0);
         tuneOf(1, 2, 4, 8);
         due("23 nothing twice", x.tune(0), 0);
         // Steps 1: |1-2|; the same finger costs 1 and 9.
@@ -927,8 +953,11 @@ public final class PromisesTest {
             x.set(6, 0, 1);
             for (int k = 0; k < 4; k++) x.text(k);
             x.tone(-1);
+            x.tone(50);
+            x.tone(40);
             x.period(1, 2);
             x.pedal(-1, 0, 0);
+            x.pedal(30, 9, 9);
             x.act(2, 99);
             Check.feed(x, "weeps;");
             x.text(0);
@@ -952,6 +981,16 @@ public final class PromisesTest {
             due("36 book", x.book(0, 1), 0);
             due("36 care", x.goes(1, 0), (water + 14) / 2);
         }
+        x = new WeepingPiano();
+        x.set(4, 6, 2);
+        x.act(2, 8);
+        x.image(true);
+        x.undo();
+        x.act(0, 6);
+        due("36 another line", x.book(0, 1), 2);
+        x.image(false);
+        due("36 the line of then", x.book(0, 1), 4);
+        due("36 its which", x.book(0, 2), -1);
     }
 
     private static void p37Look() {
