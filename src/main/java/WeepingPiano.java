@@ -16,6 +16,8 @@ public final class WeepingPiano {
     private static final int BOOK_LINES = 150;
     private static final int BOOK_WIDTH = 4;
     private static final int MODULUS = 1000000007;
+    /* Above every cost and every set of PIECES. */
+    private static final int FAR_ABOVE = 1000000;
 
     /* What a line of THE BOOK tells of. */
     private static final int PLAYED = 0;
@@ -780,7 +782,7 @@ public final class WeepingPiano {
             if (i + 1 >= tones) {
                 return 0;
             }
-            int least = Integer.MAX_VALUE;
+            int least = FAR_ABOVE;
             for (int g = 0; g < FINGERS; g++) {
                 least = Math.min(least, stepCost(i, f, g) + costs[(i + 1) * FINGERS + g]);
             }
@@ -951,12 +953,12 @@ public final class WeepingPiano {
         /** Goes through all sets of PIECES so that each differs from the one ahead by one PIECE. */
         int setsThatWept(int v, int what) {
             int count = 0;
-            int least = Integer.MAX_VALUE;
+            int least = FAR_ABOVE;
             int inAll = cast.allPieces();
             int set = 0;
             int sum = 0;
             for (int i = 1; i <= cast.allPieces(); i++) {
-                int piece = Math.min(MOST_PIECES - 1, Integer.numberOfTrailingZeros(i));
+                int piece = Math.min(MOST_PIECES - 1, Integer.bitCount((i & -i) - 1));
                 set ^= 1 << piece;
                 sum += ((set >> piece) & 1) != 0 ? stage.wept[piece] : -stage.wept[piece];
                 if (sum == v) {
@@ -997,7 +999,8 @@ public final class WeepingPiano {
         int groups() {
             int count = 0;
             for (int piece = 0; piece < cast.pieces; piece++) {
-                if (Integer.numberOfTrailingZeros(groupOf(piece)) == piece) {
+                int ahead = (1 << piece) - 1;
+                if ((groupOf(piece) & ahead) == 0) {
                     count++;
                 }
             }
@@ -1839,16 +1842,22 @@ public final class WeepingPiano {
             return best;
         }
 
-        /** Seen from one of its tones, a chord reaches as far as its highest bit. */
         static int spanOf(int set) {
             int least = TONES;
             for (int t = 0; t < TONES; t++) {
                 if (((set >> t) & 1) != 0) {
-                    int fromHere = movedBy(set, (TONES - t) % TONES);
-                    least = Math.min(least, 31 - Integer.numberOfLeadingZeros(fromHere));
+                    least = Math.min(least, highestOf(movedBy(set, (TONES - t) % TONES)));
                 }
             }
             return least;
+        }
+
+        private static int highestOf(int set) {
+            int highest = 0;
+            for (int t = 1; t < TONES; t++) {
+                highest = ((set >> t) & 1) != 0 ? t : highest;
+            }
+            return highest;
         }
 
         int fillings(int n, int lengths, boolean noTwoAlike) {
