@@ -24,6 +24,10 @@ final class Check {
         return wrong;
     }
 
+    static int askedSoFar() {
+        return asked;
+    }
+
     /** Ends the test: with exit code 1 if an answer was wrong, or if none was asked for. */
     static void close() {
         System.out.println(asked + " answers, " + wrong + " not as due");
