@@ -406,6 +406,40 @@ final class EdgeBounds extends Edge {
         due("< of the ends", lawful("weeps 1 when 8192*8192*32<8192*8192*32-1;weeps 2;").of(0, 10), 1);
     }
 
+    static void p13EachNameIsItsOwn() {
+        WeepingPiano x = new WeepingPiano();
+        x.piece(30, 3, 5);
+        x.piece(1, 0, 0);
+        x.player(0, 0);
+        x.player(8, 2);
+        salted(x, 7);
+        x.set(5, 0, 40);
+        x.set(7, 0, 6);
+        told(x, 0, "weeps 0;damps 0;");
+        x.play(0, 0);
+        String[] names = {"sad", "hard", "art", "wish", "water", "salt", "flat", "string", "fire", "minute", "played", "day"};
+        int[] want = {3, 5, 8, 2, 40, 7, 0, 0, 6, 0, 1, 1};
+        for (int i = 0; i < names.length; i++) {
+            told(x, 0, "weeps " + names[i] + ";damps 90+" + names[i] + ";settles " + names[i] + ";");
+            due("weeps " + names[i], x.of(0, 11), want[i]);
+            due("settles " + names[i], x.settles(1, 0), want[i]);
+            due("damps " + names[i], x.damps(1, 0, 0), 90 + want[i]);
+        }
+        told(x, 0, "weeps day;");
+        x.days(20);
+        due("another day", x.of(0, 11), 21);
+    }
+
+    static void p13NotAndOrAtTheirEdges() {
+        String[] so = {"not 1=2", "not 2<1", "not 1>2", "not not 1<2", "1<2 and 1=1", "1=1 and 2>1", "2>1 and 1<2", "1=2 or 2=1 or 1=1",
+            "1=1 or 1=2 or 2=1", "1=2 or 1=1 or 2=1", "1=2 and 1=1 or 1=1", "1=1 or 1=1 and 1=2", "1=2 and 1=2 or 1=1 and 1=1 or 1=2",
+            "not 1=2 or 1=1", "not(1=1 and 1=2)", "(1=2 or 1=1)and(1=1 or 1=2)"};
+        String[] not = {"not 1=1", "not 1<2", "not 2>1", "not not 1=2", "1<2 and 1=2", "1=2 and 2>1", "1=2 or 2=1 or 2=3",
+            "(1=1 or 1=1)and 1=2", "not 1=1 and 1=1", "not(1=2 or 1=1)", "not 1=1 or 1=2", "1=1 and 1=1 and 1=2"};
+        for (String b : so) due(b, lawful("weeps 1 when " + b + ";weeps 2;").of(0, 10), 1);
+        for (String b : not) due(b, lawful("weeps 1 when " + b + ";weeps 2;").of(0, 10), 2);
+    }
+
     // 14: who
 
     static void p14APlayerThatThereIs() {

@@ -511,6 +511,20 @@ final class EdgePlay extends Edge {
         due("lines", x.look(9), 48);
     }
 
+    static void p08RowsOfSixOneBehindTheOther() {
+        WeepingPiano x = piano(12, 6);
+        told(x, 0, "weeps 0;damps 0;");
+        told(x, 1, "on 0player 5piece 6 7 8 9 10 11;on 1player 4piece 0 1 2 3 4 5;on 0player 3piece 11 11 11 11 11 10;on 1player 2piece 0 0 0 0 0 1;");
+        due("day 0", x.days(1), 12);
+        int[] want = {0, 0, 0, 0, 0, 0, 1, 1, 1, 1, 2, 6};
+        for (int p = 0; p < 12; p++) due("played, piece " + p, x.of(p, 3), want[p]);
+        int[] row = {6, 7, 8, 9, 10, 11, 11, 11, 11, 11, 11, 10};
+        for (int i = 0; i < 12; i++) line(x, i, 0, 0, row[i], 0);
+        due("day 1", x.days(1), 12);
+        int[] more = {6, 2, 1, 1, 1, 1};
+        for (int p = 0; p < 6; p++) due("played, piece " + p, x.of(p, 3), more[p]);
+    }
+
     // 18: book
 
     static void p18ALineThatThereIs() {
@@ -585,6 +599,15 @@ final class EdgePlay extends Edge {
         x = waiting(11, 10, "");
         due("lines", x.look(9), 3);
         line(x, 1, 0, 1, 0, 1);
+    }
+
+    static void p18OnTheLastDay() {
+        WeepingPiano x = piano(1, 1);
+        told(x, 0, "weeps 7 when day=9999;weeps 0;damps 0;");
+        for (int i = 0; i < 499; i++) x.days(20);
+        x.days(19);
+        due("weeps", x.play(0, 0), 7);
+        due("day of the line", x.book(0, 0), 9999);
     }
 
     static void p18TheMostThatALineTells() {

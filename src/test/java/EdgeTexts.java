@@ -99,6 +99,20 @@ final class EdgeTexts extends Edge {
         due("lines", x.text(0), 0);
     }
 
+    static void p10ACutAmidAWordOrANumber() {
+        WeepingPiano x = piano(1, 1);
+        for (Object[] v : new Object[][] {{"weeps sad", 8, 6}, {"weeps", 4, 0}, {"weeps 1 when", 11, 8}}) {
+            Check.feed(x, (String) v[0]);
+            x.end((Integer) v[1]);
+            due("a fault", x.text(0), NONE);
+            due("its place", x.fault(1), (Integer) v[2]);
+        }
+        Check.feed(x, "weeps 12345");
+        x.end(10);
+        x.text(0);
+        due("a number of four digits, then the end", x.fault(1), 10);
+    }
+
     static void p10ARefusedOneChangesNothing() {
         WeepingPiano x = new WeepingPiano();
         Check.feed(x, "weeps 1;weeps 2;");
@@ -118,6 +132,10 @@ final class EdgeTexts extends Edge {
             WeepingPiano x = new WeepingPiano();
             faulty(x, 0, "weeps;", 1, 5);
             due("text", x.text(k), NONE);
+            due("fault", x.fault(0), 0);
+            due("place", x.fault(1), NONE);
+            faulty(x, 0, "weeps;", 1, 5);
+            due("text of what would be a fault", Check.tell(x, k, "?"), NONE);
             due("fault", x.fault(0), 0);
             due("place", x.fault(1), NONE);
         }
@@ -193,6 +211,35 @@ final class EdgeTexts extends Edge {
         told(x, 3, "piece 0 like 1;piece 0 like 2;");
         told(x, 3, "piece 1 like 2;");
         due("likeness", x.of(0, 5), 0);
+    }
+
+    static void p11AShorterTextLeavesNothingOfTheLonger() {
+        WeepingPiano x = piano(4, 1);
+        told(x, 0, "damps 1;weeps 5;weeps 6;");
+        told(x, 0, "damps 1;");
+        due("law", x.of(0, 10), 0);
+        told(x, 1, "on 0 player 0 piece 0 1;on 0 player 0 piece 1 2;");
+        told(x, 1, "on 0 player 0 piece 0;");
+        told(x, 2, "on 9 empty;on 0 dry 5;");
+        told(x, 2, "on 9 empty;");
+        told(x, 3, "piece 0 like 1;piece 1 like 2;");
+        told(x, 3, "piece 0 like 1;");
+        due("programme", x.days(1), 1);
+        due("care", x.look(4), 10);
+        due("likeness", x.of(1, 5), 1);
+        due("group", x.alike(1), 3);
+        for (int k = 1; k < 4; k++) x.text(k);
+        due("no programme", x.days(1), 0);
+        due("no likeness", x.alike(0), 1);
+        due("groups", x.alike(NONE), 4);
+    }
+
+    static void p11ManyTextsOneBehindTheOther() {
+        WeepingPiano x = piano(1, 1);
+        for (int i = 0; i < 20; i++) {
+            told(x, 0, "weeps " + i + "+1".repeat(90) + "-89 when 1=1;");
+            due("the law of then", x.of(0, 10), i + 1);
+        }
     }
 
     static void p11ATextOf400Bytes() {
@@ -349,7 +396,8 @@ final class EdgeTexts extends Edge {
             {"weeps 1 when 1=1 or;", 19}, {"weeps 1 when 1=1 and;", 20}, {"weeps 1 when or 1=1;", 13}, {"weeps 1 when not;", 16},
             {"weeps 1 when ();", 14}, {"weeps 1 when (1=1;", 17}, {"weeps 1 when 1=1);", 16}, {"weeps 1 when (1)=1;", 15},
             {"weeps 1 when 1=(1);", 15}, {"weeps 1 when 1=1 not 1=1;", 17}, {"weeps 1 when 1=1 when 1=1;", 17},
-            {"weeps 1 when 1<>1;", 15}, {"weeps 1 weeps 1;", 8}, {"weeps 1 when 1=1 1=1;", 17}};
+            {"weeps 1 when or +;", 13}, {"weeps 1 when and 1/0;", 13}, {"weeps 1 when + or +;", 13},
+            {"weeps 1 when 1=or +;", 15}, {"weeps 1 when 1<>1;", 15}, {"weeps 1 weeps 1;", 8}, {"weeps 1 when 1=1 1=1;", 17}};
         for (Object[] v : all) faulty(x, 0, (String) v[0], 1, (Integer) v[1]);
         due("no line was taken", x.look(11), 0);
     }
@@ -361,7 +409,7 @@ final class EdgeTexts extends Edge {
             {1, "on 0 player 0 piece 0 piece 1;", 22}, {1, "on 0 player 0 piece 0+1;", 21}, {1, "on 0 player 0 piece 0;;", 22},
             {1, "on -1 player 0 piece 0;", 3}, {2, "on 0;", 4}, {2, "on 0 0;", 5}, {2, "on 0 tune;", 9}, {2, "on 0 tune -1;", 10},
             {2, "on 0 empty 0;", 11}, {2, "on 0 tune 0 1;", 12}, {2, "on 0 child;", 10}, {2, "on 0 fire;", 9}, {2, "on 0 dry;", 8},
-            {2, "on 0 empty;empty;", 11}, {2, "on 0 tune 0 empty;", 12}, {3, "piece;", 5}, {3, "piece 0;", 7}, {3, "piece 0 1;", 8},
+            {2, "on 0 empty;empty;", 11}, {2, "on 0 tune 0 empty;", 12}, {3, "piece;", 5}, {3, "piece 0;", 7}, {3, "piece 0 1;", 8}, {3, "piece 0 0;", 8},
             {3, "piece 0 like;", 12}, {3, "piece 0 like 1 0;", 15}, {3, "piece 0 like 1 like 0;", 15}, {3, "like 0 piece 1;", 0},
             {3, "piece 0 like 1;0 like 1;", 15}};
         for (Object[] v : all) faulty(x, (Integer) v[0], (String) v[1], 1, (Integer) v[2]);
@@ -396,6 +444,8 @@ final class EdgeTexts extends Edge {
         for (String nought : new String[] {"0", "00", "000", "0000"}) faulty(x, 0, "weeps 7 / " + nought + ";", 2, 10);
         faulty(x, 0, "weeps 7/1/0;", 2, 10);
         faulty(x, 0, "weeps 1 when 1=1/0;", 2, 17);
+        faulty(x, 0, "weeps 1 when 1/0=1;", 2, 15);
+        faulty(x, 0, "weeps 1 when not(1/0);", 2, 19);
         told(x, 0, "weeps 7/1;weeps 7/9999;weeps 0/7;weeps 7*0;");
     }
 

@@ -90,6 +90,38 @@ final class EdgeThought extends Edge {
         due("salt", x.goes(2, 1), 15);
     }
 
+    static void p19WhatIsDoneBehindItIsDone() {
+        for (int w = 0; w < 3; w++) {
+            WeepingPiano x = lawful("weeps 20;damps 1000 when string=0;damps 0;settles 20+fire;");
+            told(x, 1, "on 0 player 0 piece 0 1;");
+            x.set(4, 7, 5);
+            x.goes(1, 0);
+            x.lasts(0, 3, 0);
+            if (w == 0) due("a playing", x.play(0, 0), 20);
+            if (w == 1) due("a tuning", x.act(0, 7), true);
+            if (w == 2) due("a day", x.days(1), 2);
+            due("lines", x.look(9), w == 2 ? 3 : 1);
+            due("water", x.look(2), w == 0 ? 20 : w == 1 ? 0 : 10);
+            due("draws", x.look(10), drawn(0, w == 0 ? 1 : w == 1 ? 0 : 2));
+            due("flat", x.string(7, 0), w == 1 ? 0 : 5);
+            due("day", x.look(8), w == 2 ? 1 : 0);
+            due("kept", x.look(15), 1);
+        }
+    }
+
+    static void p19WhatIsAskedBehindItIsOfHowThingsAre() {
+        WeepingPiano x = lawful("weeps water+1;damps flat+2;settles water+3;");
+        told(x, 1, "on 0 player 0 piece 0 1 0;");
+        told(x, 2, "on 0 tune 0;");
+        x.set(4, 0, 9);
+        x.goes(3, 0);
+        due("weeps", x.of(0, 10), 1);
+        x.goes(3, 0);
+        due("damps", x.damps(0, 0, 0), 11);
+        x.lasts(0, 3, 0);
+        due("settles", x.settles(0, 0), 3);
+    }
+
     // 20: lasts
 
     static void p20APlayerThatThereIs() {
@@ -118,6 +150,31 @@ final class EdgeThought extends Edge {
             }
             refused("what", v -> x.lasts(0, set, v), FAR);
         }
+    }
+
+    static void p20ThePiecesOfTheSetAlone() {
+        WeepingPiano x = piano(12, 1);
+        for (int p = 0; p < 12; p++) due("piece " + p, x.lasts(0, 1 << p, 10), p);
+        due("the first of 3 and 11", x.lasts(0, 1 << 3 | 1 << 11, 10), 3);
+        due("the second", x.lasts(0, 1 << 3 | 1 << 11, 11), 11);
+    }
+
+    static void p20EachOrderIsFromHowThingsAre() {
+        WeepingPiano x = new WeepingPiano();
+        x.piece(1, 9, 0);
+        x.piece(1, 8, 0);
+        x.player(0, 0);
+        told(x, 0, "weeps sad*5;settles 30 when salt=0;settles 1;");
+        // 0 first: 45, 15, then by 1 to 10. 1 first: 40, 10: SALT is none again when that is tried.
+        due("by salt", x.lasts(0, 3, 0), 3);
+        due("1 first", x.lasts(0, 3, 10), 1);
+        told(x, 0, "weeps 50;settles 99 when sad=8 and played=1;settles 0;");
+        due("by played", x.lasts(0, 3, 0), 3);
+        due("1 first", x.lasts(0, 3, 10), 1);
+        x.piece(1, 7, 0);
+        told(x, 0, "weeps 50 when played=0;weeps 99;settles 50 when played=1;settles 0;");
+        due("three", x.lasts(0, 7, 0), 3 + 2);
+        for (int i = 0; i < 3; i++) due("as they come", x.lasts(0, 7, 10 + i), i);
     }
 
     static void p20OneAloneIsNotWaitedFor() {
@@ -154,7 +211,7 @@ final class EdgeThought extends Edge {
         WeepingPiano x = new WeepingPiano();
         for (int i = 0; i < 5; i++) x.piece(1, i, 0);
         x.player(0, 0);
-        told(x, 0, "weeps 1 when sad+water=4;weeps 50;settles 0;");
+        told(x, 0, "weeps 1 when sad+water=4 and played=0;weeps 50;settles 0;");
         due("minutes", x.lasts(0, 31, 0), 5);
         for (int i = 0; i < 5; i++) due("the " + i + "-th", x.lasts(0, 31, 10 + i), 4 - i);
     }
@@ -240,6 +297,10 @@ final class EdgeThought extends Edge {
         due("0 and 6: both", x.chords(65, 0, 2), 2);
         due("0 and 6: by 6", x.chords(65, 0, 3), 6);
         due("0 and 5: by 5, not 7", x.chords(33, 0, 3), 5);
+        for (int t = 1; t < 12; t++) {
+            due("0 and " + t + ": how many", x.chords(1 | 1 << t, 0, 2), t == 6 ? 2 : 1);
+            due("0 and " + t + ": by", x.chords(1 | 1 << t, 0, 3), Math.min(t, 12 - t));
+        }
     }
 
     static void p21SpanIsModulo12() {
@@ -337,6 +398,8 @@ final class EdgeThought extends Edge {
         due("where", tuneOf(row(16, 5, 0)).tune(1), 0);
         due("sixteen steps of 4", tuneOf(row(16, 0, 4)).tune(0), 15);
         due("three", tuneOf(5, 7, 9).tune(0), 2);
+        due("where", tuneOf(5, 7, 9).tune(1), 0);
+        due("behind another", tuneOf(9, 5, 5, 5).tune(1), 1);
     }
 
     static void p23TwiceIfMovedToo() {
@@ -385,6 +448,19 @@ final class EdgeThought extends Edge {
         WeepingPiano x = tuneOf(tones);
         due("fifteen times 60 less 8", x.tune(3), 15 * 52);
         for (int i = 0; i < 16; i++) due("finger", x.tune(10 + i), i % 2 == 0 ? 1 : 5);
+    }
+
+    static void p23FingersOfAShorterTuneBehindALonger() {
+        WeepingPiano x = tuneOf(0, 60, 0, 60, 0, 60);
+        due("six", x.tune(3), 5 * 52);
+        x.tone(NONE);
+        due("none: cost", x.tune(3), 0);
+        x.tone(10);
+        due("one: finger", x.tune(10), 1);
+        due("one: cost", x.tune(3), 0);
+        x.tone(11);
+        due("two: the second finger, asked first", x.tune(11), 2);
+        due("two: cost", x.tune(3), 1);
     }
 
     private static int fingersCost(int[] tones, int[] fingers) {
@@ -457,6 +533,12 @@ final class EdgeThought extends Edge {
             due("down by " + t, tuneOf(t, 0).canon(1, 0, 1), sweet.contains(t % 12) ? 1 : 0);
         }
         for (int h = 0; h <= 12; h++) due("higher by " + h, tuneOf(30, 30).canon(1, h, 1), sweet.contains(h % 12) ? 1 : 0);
+        for (int t = 0; t <= 24; t++) {
+            for (int h = 0; h <= 12; h++) {
+                boolean is = sweet.contains(Math.abs(t - h) % 12);
+                due("up by " + t + ", higher by " + h, tuneOf(0, t).canon(1, h, 1), is ? 1 : 0);
+            }
+        }
         due("72 apart", tuneOf(60, 0).canon(1, 12, 1), 1);
         due("48 apart", tuneOf(0, 60).canon(1, 12, 1), 1);
     }
@@ -630,6 +712,7 @@ final class EdgeThought extends Edge {
         WeepingPiano x = pedalOf(0, 1, 0, 1, 1, 1);
         due("one behind the other", x.mud(0), 1);
         due("no clash", x.mud(2), 0);
+        due("told the other way, no clash", pedalOf(1, 1, 1, 0, 1, 0).mud(2), 0);
         x = pedalOf(0, 2, 0, 1, 1, 1);
         due("a minute together", x.mud(0), 2);
         due("it", x.mud(1), 1);
@@ -778,6 +861,32 @@ final class EdgeThought extends Edge {
         due("six players of one", x.have(1, 0), 6);
         due("the sixth", x.have(1, 15), 5);
         due("the seventh", x.have(1, 16), NONE);
+    }
+
+    static void p31OneRoomIsNotGivenTwice() {
+        WeepingPiano x = new WeepingPiano();
+        x.piece(1, 0, 9);
+        x.piece(1, 0, 0);
+        x.piece(1, 0, 5);
+        x.player(9, 0);
+        due("one of three", x.have(1, 0), 1);
+        due("the first", x.have(1, 10), 0);
+        due("not the second", x.have(1, 11), NONE);
+        due("two of three", x.have(2, 0), 2);
+        due("not the third", x.have(2, 12), NONE);
+    }
+
+    static void p31BehindOneThatNoneMayHave() {
+        WeepingPiano x = new WeepingPiano();
+        x.piece(1, 0, 9);
+        x.piece(1, 0, 8);
+        x.piece(1, 0, 8);
+        x.player(8, 0);
+        x.player(8, 0);
+        due("two", x.have(1, 0), 2);
+        due("none has the first", x.have(1, 10), NONE);
+        due("the second", x.have(1, 11), 0);
+        due("the third", x.have(1, 12), 1);
     }
 
     static void p31WithNoPlayer() {

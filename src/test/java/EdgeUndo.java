@@ -267,6 +267,18 @@ final class EdgeUndo extends Edge {
         }
     }
 
+    static void p35FromTheLastDay() {
+        WeepingPiano x = new WeepingPiano();
+        for (int i = 0; i < 499; i++) x.days(20);
+        x.days(19);
+        due("one more", x.days(1), NONE);
+        due("undo", x.undo(), true);
+        due("day", x.look(8), 9998);
+        due("two more", x.days(2), NONE);
+        due("one more", x.days(1), 0);
+        due("day", x.look(8), 9999);
+    }
+
     static void p35SixOfUnlikeOnes() {
         WeepingPiano x = undoable();
         int salt = x.look(3);
@@ -445,37 +457,48 @@ final class EdgeUndo extends Edge {
         due("five", x.end(5), true);
     }
 
-    static void p36AllIsAsItWasAndGoesOn() {
+    private static WeepingPiano imaged() {
         WeepingPiano x = undoable();
+        Check.tell(x, 3, "piece 0 like 1;");
         x.tone(4);
         x.tone(9);
         x.period(1, 6);
         x.pedal(7, 2, 5);
+        x.pedal(8, 2, 6);
+        x.pedal(10, 1, 7);
         x.play(0, 1);
         x.image(true);
+        return x;
+    }
+
+    static void p36AllIsAsItWasAndGoesOn() {
+        WeepingPiano x = imaged();
         x.days(3);
         x.piece(9, 9, 9);
         x.player(1, 1);
         for (int what = 0; what < 8; what++) x.set(what, 0, 9);
         for (int k = 0; k < 4; k++) x.text(k);
+        Check.tell(x, 3, "piece 2 like 1;");
         x.tone(NONE);
         x.tone(50);
+        x.tone(40);
         x.period(1, 2);
         x.pedal(NONE, 0, 0);
+        x.pedal(30, 1, 50);
+        x.pedal(40, 30, 9);
+        x.pedal(59, 30, 60);
         x.image(false);
-        WeepingPiano y = undoable();
-        y.tone(4);
-        y.tone(9);
-        y.period(1, 6);
-        y.pedal(7, 2, 5);
-        y.play(0, 1);
-        y.image(true);
+        WeepingPiano y = imaged();
         y.image(false);
         x.days(1);
         y.days(1);
         List<Integer> got = traits(x);
         List<Integer> want = traits(y);
         for (int t = 0; t < want.size(); t++) due("trait " + t, got.get(t), want.get(t));
+        due("like", x.of(0, 5), 2);
+        due("mud", x.mud(0) * 100 + x.mud(1), 208);
+        due("clash", x.mud(2), 1);
+        due("rises", x.tune(2), 2);
     }
 
     static void p36AFullBookAndAllPlaces() {

@@ -222,17 +222,19 @@ public final class ModelTest {
         }
     }
 
+    /** An object is used for 512 calls at most: a text takes 24 and the looking at all 218, so the rest ends at 270. */
     private void go() {
         begin();
-        for (int i = 0; i < 300; i++) {
+        for (int i = 0; i < 300 && calls.size() < 270; i++) {
             if (random.nextInt(5) < 2) change();
             else ask();
-            if (i % 60 == 59) lookAtAll();
         }
+        lookAtAll();
+        Check.due("calls of one object: " + calls.size(), calls.size() <= 512, true);
     }
 
     public static void main(String[] args) {
-        int runs = args.length > 0 ? Integer.parseInt(args[0]) : 400;
+        int runs = args.length > 0 ? Integer.parseInt(args[0]) : 1500;
         for (int seed = 0; seed < runs; seed++) new ModelTest(seed).go();
         Check.close();
     }
