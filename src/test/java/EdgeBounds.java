@@ -381,6 +381,8 @@ final class EdgeBounds extends Edge {
         // 462 * 4681 * 331 is 715827882, and three times that is two short of what wraps.
         due("of the least", lawful("weeps 8192*8192*32/3+462*4681*331+1;").of(0, 10), 1);
         due("of one above 0", lawful("weeps 1/2+5;").of(0, 10), 5);
+        due("by 1", lawful("weeps 7/1;").of(0, 10), 7);
+        due("by 9999", lawful("weeps 9999*7/9999;").of(0, 10), 7);
         due("by itself", lawful("weeps 9999/9999;").of(0, 10), 1);
         due("by one more", lawful("weeps 9998/9999;").of(0, 10), 0);
     }

@@ -254,6 +254,15 @@ final class EdgeTexts extends Edge {
         faulty(x, 0, "weeps7  " + "*1".repeat(196), 1, 400);
     }
 
+    static void p11ATextOf400Tokens() {
+        for (int k = 0; k < 4; k++) {
+            faulty(piano(2, 1), k, ";".repeat(400), 1, 0);
+            faulty(piano(2, 1), k, "+".repeat(399) + "1", 1, 0);
+        }
+        faulty(piano(2, 1), 0, "damps1" + "-1".repeat(197), 1, 400);
+        due("no such", Check.tell(piano(2, 1), 4, "(".repeat(400)), NONE);
+    }
+
     // 12: fault
 
     static void p12WhatIs0Or1() {
