@@ -20,6 +20,10 @@ final class Check {
         due(call, got ? 1 : 0, want ? 1 : 0);
     }
 
+    static void due(String call, String got, String want) {
+        due(call + ": " + got, got.equals(want), true);
+    }
+
     static int wrongSoFar() {
         return wrong;
     }

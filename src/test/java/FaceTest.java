@@ -65,6 +65,12 @@ public final class FaceTest {
         while (classes.find()) count++;
         Check.due("twelve classes at most", count <= 12, true);
         methodLengths(bare);
+        libraryUsed(bare);
+        CallDepth calls = new CallDepth(bare);
+        Check.due("methods were found", calls.methods() > 100, true);
+        Check.due("calls that are no recursion go eight deep at most", calls.deepest() <= 8, true);
+        Check.due("recursion is known: " + calls.recursives(), calls.recursives().toString(),
+            "[Reader.condition, Reader.enclosed, Reader.single, Recital.tryOrders]");
     }
 
     /** A method begins and ends with lines of four or eight blanks. */
@@ -85,8 +91,42 @@ public final class FaceTest {
         }
     }
 
+    /** No names with a capital but the class's own, and those of the library that the rules name. */
+    private static void libraryUsed(String bare) {
+        Set<String> known = new TreeSet<>(Set.of("WeepingPiano", "String", "Math", "Integer", "System"));
+        for (Class<?> c : WeepingPiano.class.getDeclaredClasses()) known.add(c.getSimpleName());
+        Matcher names = Pattern.compile("\\b[A-Z]\\w*[a-z]\\w*\\b").matcher(bare);
+        while (names.find()) Check.due("name " + names.group(), known.contains(names.group()), true);
+        Set<String> functions = Set.of("Math.max", "Math.min", "Math.abs", "Math.floorMod", "Integer.bitCount", "System.arraycopy");
+        Matcher calls = Pattern.compile("\\b(?:Math|Integer|System|String)\\.\\w+").matcher(bare);
+        while (calls.find()) Check.due("function " + calls.group(), functions.contains(calls.group()), true);
+    }
+
+    /** Static fields are constants; a class has some twenty others at most; none is inner, local or without a name. */
+    private static void fields() throws IOException {
+        Set<Class<?>> constant = Set.of(int.class, long.class, boolean.class, char.class, String.class, int[].class, long[].class, char[].class, byte[].class);
+        Set<Class<?>> all = new java.util.HashSet<>(Set.of(WeepingPiano.class.getDeclaredClasses()));
+        all.add(WeepingPiano.class);
+        for (Class<?> c : all) {
+            int own = 0;
+            for (Field f : c.getDeclaredFields()) {
+                boolean isStatic = Modifier.isStatic(f.getModifiers());
+                own += isStatic ? 0 : 1;
+                if (isStatic) Check.due("constant " + f, Modifier.isFinal(f.getModifiers()) && constant.contains(f.getType()), true);
+            }
+            Check.due("fields of " + c, own <= 20, true);
+            Check.due("no class in " + c, c == WeepingPiano.class || c.getDeclaredClasses().length == 0, true);
+        }
+        String home = WeepingPiano.class.getProtectionDomain().getCodeSource().getLocation().getPath();
+        try (var files = Files.list(Path.of(home))) {
+            long made = files.filter(f -> f.getFileName().toString().startsWith("WeepingPiano")).count();
+            Check.due("classes, none without a name", made, all.size());
+        }
+    }
+
     public static void main(String[] args) throws IOException {
         face();
+        fields();
         source();
         Check.close();
     }
