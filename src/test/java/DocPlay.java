@@ -58,6 +58,8 @@ final class DocPlay extends Edge {
         }
         for (int s = 0; s < 8; s++) due("flat of " + s, x.string(s, 0), flat[s]);
         due("state", x.look(10), state);
+        due("a draw of 123 is below 124", goesFlat(124, 5123 << 8), true);
+        due("a draw of 123 is not below 123", goesFlat(123, 5123 << 8), false);
         x = growing(1, "weeps 40;damps 1000 when water=40;damps 0;");
         x.play(0, 0);
         due("water of this minute, when it has wept", x.string(0, 0), 1);

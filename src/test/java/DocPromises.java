@@ -183,8 +183,10 @@ final class DocPromises extends Edge {
         }
         due("the law stays", x.of(0, 10) * 100 + x.damps(0, 0, 0) * 10 + x.settles(0, 0), 789);
         due("likeness stays", x.of(0, 5), 2);
-        due("a fault is told", x.fault(0), 1);
         for (int k : new int[] {-1, 4, LEAST, MOST}) {
+            due("a fault is told", Check.tell(x, 0, "weeps"), NONE);
+            due("which", x.fault(0), 1);
+            Check.feed(x, "weeps");
             due("no such one", x.text(k), NONE);
             due("fault() tells 0", x.fault(0), 0);
             due("and no place", x.fault(1), NONE);
@@ -386,6 +388,7 @@ final class DocPromises extends Edge {
         WeepingPiano x = new WeepingPiano();
         for (int s = 0; s < 8; s++) x.period(s, s + 1);
         due("4 and 6", x.beats(3, 5), 12);
+        due("8 and 1", x.beats(7, 0), 8);
         for (int t : new int[] {0, -1, 99, LEAST}) due("of all", x.beats(NONE, t), 840);
         refused("s", v -> x.beats(v, 0), 8, -2, LEAST, MOST);
         refused("t", v -> x.beats(0, v), 8, -1, LEAST, MOST);
@@ -404,6 +407,7 @@ final class DocPromises extends Edge {
         due("none is then", x.pedal(NONE, 99, 99), 0);
         due("none sounds", x.mud(0), 0);
         due("the first again", x.pedal(0, 1, 0), 1);
+        due("it sounds in minute 0", x.mud(0) * 10 + x.mud(1), 10);
     }
 
     @Says("PEDAL what 0 MUD, 1 the first minute (none told: 0), 2 CLASH. NONE for another what.")

